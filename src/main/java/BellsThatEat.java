@@ -718,8 +718,6 @@ public final class BellsThatEat {
             kinds[number] = kind;
             vs[number] = v;
             fed[number] = fedAtFirst;
-            // an undo may have left the ROW of a BELL that is no more
-            Arrays.fill(rows, number * PARTS, number * PARTS + PARTS, 0);
             bellCount++;
             return number;
         }

@@ -194,7 +194,7 @@ public final class PromisesTest {
             {"grow 1 b=1", 6}, {"grow 00;grow 000", 15}, {"grow,", 4}, {" tune 1", 0}, {"Tune 1", 0}, {";", 0},
             {"tune 1;tune 1;tune 1;tune 1;tune 1;tune 1;tune 1;tune 1;tune 1;tune 1;", 69},
             {"tune 1;tune 1;tune 1;tune 1;tune 1;tune 1;tune 1;tune 1;tune 1;tune 1;tune 1", 69},
-            {"tune 1\n", 6}, {"likes 1 b=1&!", 13}, {"likes 1 b<1|f>2&k=3|(v=1", 24},
+            {"tune 1\n", 6}, {"tune :", 5}, {"tune /", 5}, {"tune 1:", 6}, {"likes 1 b=:", 10}, {"likes 1 b=1&!", 13}, {"likes 1 b<1|f>2&k=3|(v=1", 24},
         };
         for (Object[] w : want) {
             BellsThatEat x = new BellsThatEat();
@@ -227,6 +227,13 @@ public final class PromisesTest {
                 due("TUNE behind it", 9, x.told(2));
             }
         }
+        BellsThatEat z = new BellsThatEat();
+        z.bell(0, 0, 50);
+        due("a FAULT at last", -32, upland(z, "tune 3;grow 5;likes 9 "));
+        due("likes 0", 0, upland(z, "likes 0 b=0;likes 1 b=1"));
+        due("nothing is left of it", 9, z.told(2));
+        due("nothing is left of it", 0, z.told(3));
+        due("nothing is left of it", 5, z.of(0, 10));
         write(x, "tune 77");
         due("a seventh", -4, x.upland());
         due("THE TEXT stays", 7, x.count(6));
@@ -712,6 +719,9 @@ public final class PromisesTest {
         BellsThatEat x = withBells(0, 0, 30, 0, 0, 50);
         due("GONE of nothing", 0, x.gone(0));
         due("those IN TUNE", 2, x.gone(1));
+        x.fill(1, 41);
+        due("no DAY goes", 2, x.gone(1));
+        x.fill(1, 50);
         due("feeding", 1, x.feeding(0, 2));
         due("EATEN", 1, x.gone(0));
         due("those IN TUNE", 3, x.gone(1));
@@ -765,6 +775,8 @@ public final class PromisesTest {
         due("LOOKED", 2, x.looked());
         x.fill(1, 51);
         due("LOOKED", 1, x.looked());
+        x.fill(0, 31);
+        due("LOOKED", 0, x.looked());
         due("fed 100", -2, x.book(0, 100));
         due("fed -1", -2, x.book(0, -1));
         due("no bell, fed 100", -1, x.book(2, 100));
@@ -871,6 +883,26 @@ public final class PromisesTest {
         due("the BOOK", -5, x.looked());
         x.upland();
         due("a new UPLAND", 2, upland(x, "tune 8"));
+        x.peal(-1);
+        x.see(-1, 0, 0);
+        x.feeding(-1, 0);
+        x.book(-1, 0);
+        x.undo();
+        int[] asked = {x.good(0), x.can(1, 0), x.can(1, 1), x.gone(0), x.gone(1), x.looked()};
+        x.peal(-1);
+        x.peal(1);
+        x.see(-1, 0, 0);
+        x.see(0, 33, 8);
+        x.feeding(-1, 0);
+        x.feeding(1, 3);
+        x.book(-1, 0);
+        x.book(0, 9);
+        x.undo();
+        int[] then = {x.good(0), x.can(1, 0), x.can(1, 1), x.gone(0), x.gone(1), x.looked()};
+        for (int i = 0; i < asked.length; i++) {
+            due("what was told by hand, " + i, asked[i], then[i]);
+        }
+        upland(x, "tune 8");
         due("TUNE", 8, x.told(2));
         due("undo again", 2, x.undo());
         due("TUNE", 3, x.told(2));
@@ -945,6 +977,37 @@ public final class PromisesTest {
             due("no bell", -11, x.taken(1, 0));
             due("bell -1", -11, x.taken(-1, 6));
         }
+    }
+
+    /** With as many BELLS as there can be, and the ROWS of the last. */
+    private static void sixBells() {
+        BellsThatEat x = withBells(0, 9, 50, 0, 8, 50, 2, 7, 80, 3, 6, 30, 5, 5, 75, 6, 4, 34);
+        for (int part = 0; part < 4; part++) {
+            x.row(5, part, part + 1);
+        }
+        due("told(4)", 63, x.told(4));
+        due("on(0, 0)", 63, x.on(0, 0));
+        due("ON of the last", 34 - 3 - 4 - 5, x.on(3, 15));
+        due("mean", 319, x.mean(0, 0));
+        due("mean", 6, x.mean(0, 1));
+        due("all", 0, x.all());
+        due("ring", 6, x.ring(-1));
+        due("ring", 5, x.ring(5));
+        due("towers", 25, x.towers());
+        x.tape(0, 4, 6);
+        for (int i = 0; i < 6; i++) {
+            x.item(0, i, 1);
+        }
+        due("judge", -5, x.judge(0, 0));
+        due("judge", 105, x.judge(0, 1));
+        due("image", 6, x.image());
+        x.row(5, 3, 0);
+        due("undo", 6, x.undo());
+        due("ROW of the last", 4, x.row(5, 3, 4));
+        due("strike", 1, x.strike(5));
+        due("FED", 33, x.of(5, 2));
+        due("peal", 1, x.peal(5));
+        due("good", 1, x.good(0));
     }
 
     private static void counts() {
@@ -1068,6 +1131,7 @@ public final class PromisesTest {
         part("32, 33"); image();
         part("34, 35"); acts();
         part("36"); taken();
+        part("six BELLS"); sixBells();
         part("37"); counts();
         part("38 .. 40"); tapes();
         part("41"); shift();
