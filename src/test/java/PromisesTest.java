@@ -230,6 +230,7 @@ public final class PromisesTest {
         BellsThatEat z = new BellsThatEat();
         z.bell(0, 0, 50);
         due("a FAULT at last", -32, upland(z, "tune 3;grow 5;likes 9 "));
+        due("a FAULT behind a whole CLAUSE", -22, upland(z, "likes 9 b=0;x"));
         due("likes 0", 0, upland(z, "likes 0 b=0;likes 1 b=1"));
         due("nothing is left of it", 9, z.told(2));
         due("nothing is left of it", 0, z.told(3));
@@ -566,6 +567,10 @@ public final class PromisesTest {
             y.bell(3, 0, 65 - b);
         }
         due("six", 6, y.ring(-1));
+        BellsThatEat w = withUpland("tune 29");
+        w.bell(3, 0, 1);
+        w.bell(3, 0, 1);
+        due("FED is 0 behind the first", 1, w.ring(-1));
         int[] order = {5, 4, 3, 2, 1, 0};
         BellsThatEat z = withUpland("tune 0");
         for (int b = 0; b < 6; b++) {
@@ -695,6 +700,11 @@ public final class PromisesTest {
         due("surely", 1, x.odds(0, 0));
         due("surely", 1, x.odds(0, 1));
         due("nothing changed", 7, x.told(12));
+        x.fill(0, 30);
+        x.store(0, 2);
+        x.store(2, 2);
+        due("2 of 4: above", 1, x.odds(0, 0));
+        due("2 of 4: below", 2, x.odds(0, 1));
     }
 
     private static void mean() {
@@ -839,7 +849,8 @@ public final class PromisesTest {
         x.eats(0, 1);
         upland(x, "tune 3");
         x.peal(0);
-        x.see(1, 9, 3);
+        x.see(1, 40, 3);
+        due("CAN", 3, x.can(1, 0));
         x.feeding(0, 2);
         x.book(1, 46);
         due("image", 2, x.image());
