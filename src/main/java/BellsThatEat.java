@@ -244,8 +244,7 @@ public final class BellsThatEat {
         if (!isBell(bell) || what < 0 || what > FOODS) {
             return NONE;
         }
-        meals.begin(now, bell, NOT_SO);
-        meals.choose(0, MOST_MEAL, now.fed[bell]);
+        meals.goThrough(now, bell, NOT_SO);
         if (meals.fewest < 0) {
             return NOT_SO;
         }
@@ -259,8 +258,7 @@ public final class BellsThatEat {
         if (!isWithin(n, MOST_FED)) {
             return BAD;
         }
-        meals.begin(now, bell, n);
-        meals.choose(0, MOST_MEAL, now.fed[bell]);
+        meals.goThrough(now, bell, n);
         return meals.ways;
     }
 
@@ -477,14 +475,11 @@ public final class BellsThatEat {
     }
 
     public int act(int bell, int act, int x) {
-        acts.ran = 0;
         if (!isBell(bell) || act < Acts.SWINGS || act > Acts.TELLS) {
+            acts.ran = 0;
             return 0;
         }
-        acts.kind = now.kinds[bell];
-        acts.number = bell;
-        acts.v = now.vs[bell];
-        return acts.runs(acts.kind, act, x, 0);
+        return acts.perform(now.kinds[bell], bell, now.vs[bell], act, x);
     }
 
     public int trace(int i) {
@@ -1111,16 +1106,17 @@ public final class BellsThatEat {
         int fewest;
         final int[] best = new int[FOODS];
 
-        void begin(Hill ofHill, int ofBell, int sought) {
+        void goThrough(Hill ofHill, int ofBell, int sought) {
             hill = ofHill;
             bell = ofBell;
             soughtFed = sought;
             ways = 0;
             fewest = NOT_SO;
+            choose(0, MOST_MEAL, hill.fed[bell]);
         }
 
         /** Goes through what can be taken of this FOOD and those behind it. */
-        void choose(int food, int left, int howFed) {
+        private void choose(int food, int left, int howFed) {
             if (food >= FOODS) {
                 weigh(MOST_MEAL - left, howFed);
                 return;
@@ -1152,14 +1148,22 @@ public final class BellsThatEat {
         private static final int[] BODIES = {
             10, 11, 12, 0, 20, 0, 30, 0, 0, 0, 0, 40, 50, 51, 0, 0, 0, 60, 71, 70, 0
         };
-        int kind;
-        int number;
-        int v;
+        private int kind;
+        private int number;
+        private int v;
         int ran;
         final int[] kept = new int[MOST_KEPT];
 
+        int perform(int ofKind, int ofNumber, int ofV, int act, int x) {
+            kind = ofKind;
+            number = ofNumber;
+            v = ofV;
+            ran = 0;
+            return runs(kind, act, x, 0);
+        }
+
         /** Runs the body that the KIND, or else the next one above that has one, has of an ACT. */
-        int runs(int from, int act, int x, int depth) {
+        private int runs(int from, int act, int x, int depth) {
             int body = bodyOf(from, act);
             if (body == 0 || depth > MOST_DEPTH) {
                 return 0;

@@ -404,6 +404,16 @@ public final class AskedBoundaryTest {
             rings(Boundary.in("tune 29", 3, 0, 1, 3, 0, 1, 3, 0, 1), 1, 0, 1, 2);
             rings(Boundary.in("tune 30", 3, 0, 0, 3, 0, 1, 3, 0, 2), 3, 0, 1, 2);
         });
+        test("19: RING: of fewer BELLS than a RING ahead of it had", () -> {
+            BellsThatEat x = Boundary.bells(0, 0, 0, 0, 0, 0, 0, 0, 0);
+            x.image();
+            for (int b = 3; b < 6; b++) {
+                x.bell(0, 0, 55);
+            }
+            rings(x, 3, 0, 1, 2, 3, 4, 5);
+            x.undo();
+            rings(x, 0, 0, 1, 2);
+        });
         test("19: k -1 how many, else the k-th: the last of six", () ->
             due("ring(5)", 5, Boundary.richWithSix().ring(5)));
         test("19: -5: there are fewer", () -> {

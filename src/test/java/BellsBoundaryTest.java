@@ -322,6 +322,23 @@ public final class BellsBoundaryTest {
         });
     }
 
+    private static void uplandsLeft() {
+        test("8: -10 less the FAULT: nothing is left, however many there were, each as long as can be", () -> {
+            BellsThatEat x = Boundary.bells(0, 0, 50);
+            StringBuilder text = new StringBuilder("likes 7 ");
+            for (int i = 0; i < 11; i++) {
+                text.append("!!!!b=0&");
+            }
+            due("its bytes", 96, text.length());
+            for (int i = 0; i < 3; i++) {
+                due("a FAULT", -109, Boundary.upland(x, text + "b=0x"));
+            }
+            due("upland", 0, Boundary.upland(x, text + "b=00"));
+            due("FILLS", 12, x.of(0, 10));
+            due("count(1)", 1, x.count(1));
+        });
+    }
+
     private static void told() {
         test("9: What 0 .. 4, 10 and f: each", () -> {
             BellsThatEat x = Boundary.in("tune 8;grow 3", 0, 0, 50, 0, 0, 9, 5, 0, 88);
@@ -462,6 +479,7 @@ public final class BellsBoundaryTest {
         row();
         feed();
         upland();
+        uplandsLeft();
         told();
         eats();
         pass();

@@ -65,8 +65,9 @@ final class Boundary {
     // ---- objects to begin with
 
     static void write(BellsThatEat x, String text) {
+        int before = x.count(6);
         for (int i = 0; i < text.length(); i++) {
-            due("feed", x.count(6) + 1, x.feed(text.charAt(i)));
+            due("feed", before + i + 1, x.feed(text.charAt(i)));
         }
     }
 
@@ -102,10 +103,11 @@ final class Boundary {
     }
 
     static void passTo(BellsThatEat x, int day) {
-        for (int i = 0; i < 200 && x.told(0) < day; i++) {
-            x.pass(Math.min(60, day - x.told(0)));
+        int at = x.told(0);
+        for (int i = 0; i < 200 && at < day; i++) {
+            at = x.pass(Math.min(60, day - at));
         }
-        due("DAY", day, x.told(0));
+        due("DAY", day, at);
     }
 
     static void items(BellsThatEat x, int tape, int sort, long... items) {

@@ -304,6 +304,20 @@ public final class TapesBoundaryTest {
             due("FULL", FULL, Boundary.upland(x, "tune 1"));
             due("TUNE", 9, x.told(2));
         });
+        test("33: All is as THE IMAGE: the UPLAND that holds again holds behind a FAULT and a FULL too", () -> {
+            BellsThatEat x = Boundary.in("tune 3");
+            x.image();
+            Boundary.upland(x, "tune 4");
+            x.undo();
+            due("a FAULT", -16, Boundary.upland(x, "tune 5?"));
+            due("TUNE", 3, x.told(2));
+            for (int n = 2; n < 6; n++) {
+                due("upland", n, Boundary.upland(x, "tune 6"));
+            }
+            x.undo();
+            due("FULL", FULL, Boundary.upland(x, "tune 7"));
+            due("TUNE", 3, x.told(2));
+        });
         test("33: what is not of THE IMAGE stays: THE TEXT, TAPES, THE TRACE", () -> {
             BellsThatEat x = Boundary.bells(0, 0, 50);
             x.image();
