@@ -403,6 +403,7 @@ public final class AskedBoundaryTest {
         test("19: RING: FED of all is 1 less (0 at least) behind each", () -> {
             rings(Boundary.in("tune 29", 3, 0, 1, 3, 0, 1, 3, 0, 1), 1, 0, 1, 2);
             rings(Boundary.in("tune 30", 3, 0, 0, 3, 0, 1, 3, 0, 2), 3, 0, 1, 2);
+            rings(Boundary.in("tune 30", 3, 0, 0, 3, 0, 0, 3, 0, 0), 3, 0, 1, 2);
         });
         test("19: RING: of fewer BELLS than a RING ahead of it had", () -> {
             BellsThatEat x = Boundary.bells(0, 0, 0, 0, 0, 0, 0, 0, 0);

@@ -517,6 +517,17 @@ public final class TermsBoundaryTest {
                 }
             }
         });
+        test("The FAULT of a full TEXT: its end within a word, ahead of a word", () -> {
+            String text = "tune 1;tune 1;tune 1;tune 1;tune 1;likes 1 b=1&b=1&b=1&b=1&b=1&b=1&b=1&b=1&b=1&b=1&b=1&b=1;";
+            due("its bytes", 91, text.length());
+            for (String end : new String[] {"likes 12 ", "loathes 1", "tune 11;l", "tune 11;t", "tune 11;g", "tune 1;lo",
+                "tune 1;gr"}) {
+                fault(text + end, 100);
+            }
+            fault(text + "tune 111;", 98);
+            fault(text + "grow 12;;", 99);
+            fault(text.replace("b=1;", "b=11;") + "grow 12;", 100);
+        });
         test("The FAULT of a full TEXT: its last byte, and its end", () -> {
             String text = "likes 1 ";
             for (int i = 0; i < 22; i++) {
@@ -528,6 +539,8 @@ public final class TermsBoundaryTest {
             fault(text + "b=1&", 100);
             fault(text + "b=1|", 100);
             fault(text + "(b=1", 100);
+            fault(text + "b=1;", 100);
+            fault(text + "b=;t", 98);
         });
     }
 
@@ -539,6 +552,13 @@ public final class TermsBoundaryTest {
             fail(at(0, 0, 0, 50, 0, 1), "b=1", "b<0", "b>0");
             hold(at(5, 0, 0, 50, 0, 1), "b=5", "b<6", "b>4");
             fail(at(5, 0, 0, 50, 0, 1), "b=4", "b=6", "b<5", "b>5");
+        });
+        test("a TEST by < 0 holds for none, by > 99 neither, beside others too", () -> {
+            for (char letter : "bfkvhd".toCharArray()) {
+                fail(at(1, 1, 1, 10, 1, 1), letter + "<0", letter + ">99", letter + "<0&b=1", "b=1&" + letter + "<0");
+                hold(at(1, 1, 1, 10, 1, 1), "b=1|" + letter + "<0", letter + "<0|b=1", "!" + letter + "<0",
+                    "b=1|" + letter + ">99", letter + ">99|b=1");
+            }
         });
         test("f of the FOOD: 0 and 3", () -> {
             hold(at(1, 0, 0, 50, 0, 0), "f=0", "f<1");
